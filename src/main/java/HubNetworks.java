@@ -859,11 +859,11 @@ public final class HubNetworks {
          * congestion out, so it is never more than what the plan costs.
          */
         private static void place(Search s, int index, int sum) {
-            if (index >= s.freeCount) {
-                s.weigh(sum);
+            if (index > s.freeCount || sum + s.rest[index] >= s.limit) {
                 return;
             }
-            if (sum + s.rest[index] >= s.limit) {
+            if (index == s.freeCount) {
+                s.weigh(sum);
                 return;
             }
             int node = s.free[index];
