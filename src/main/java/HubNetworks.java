@@ -208,17 +208,20 @@ public final class HubNetworks {
         if (start == NONE || end == NONE) {
             return BAD_STATE;
         }
-        int left = index;
-        if (left == 0) {
+        // Equal neighbours share an index, and whichever of them is returned is the same node.
+        int startIndex = start == from ? 0 : 1;
+        int endIndex = end == start ? startIndex : startIndex + 1;
+        int toIndex = to == end ? endIndex : endIndex + 1;
+        if (index == 0) {
             return from;
         }
-        if (start != from && --left == 0) {
+        if (index == startIndex) {
             return start;
         }
-        if (end != start && --left == 0) {
+        if (index == endIndex) {
             return end;
         }
-        return to != end && --left == 0 ? to : NONE;
+        return index == toIndex ? to : NONE;
     }
 
     public int change(int node, int hub) {
@@ -415,7 +418,7 @@ public final class HubNetworks {
     }
 
     private static boolean contains(int mask, int node) {
-        return (mask >> node & 1) != 0;
+        return ((mask >> node) & 1) != 0;
     }
 
     /** Everything that undo() brings back. */
@@ -790,7 +793,7 @@ public final class HubNetworks {
         boolean tryNeighbours(int hubs) {
             boolean better = false;
             for (int node = 0; node < state.count; node++) {
-                int neighbour = hubs ^ 1 << node;
+                int neighbour = hubs ^ (1 << node);
                 if (neighbour != 0 && tryHubs(neighbour)) {
                     better = true;
                 }

@@ -420,6 +420,14 @@ public final class PromisesTest {
         due("check() above the capacity of another hub", x.check(), 2);
         x.addNode(5, 5, 0, 0);
         due("check() with a new node", x.check(), 1);
+        HubNetworks y = square();
+        y.adopt(4);
+        y.setHub(0, false);
+        due("check() with the node 0 unassigned", y.check(), 1);
+        y.setHub(0, true);
+        due("check()", y.check(), 0);
+        y.setNode(0, 0, 9);
+        due("check() above the capacity of the node 0", y.check(), 2);
     }
 
     private static void load() {
@@ -588,6 +596,11 @@ public final class PromisesTest {
         asks(x, "least(2)", () -> x.least(2), 82200);
         asks(x, "least(6)", () -> x.least(6), 54000);
         asks(x, "least(15)", () -> x.least(15), 28650);
+        asks(x, "least(1)", () -> x.least(1), 112100);
+        x.setCongestion(40, 100, 41, 10);
+        due("least(1) with congestion", x.least(1), 112100 + 300 + 20);
+        x.setFactors(100, 50, 100, 10);
+        due("least(3) with a trunk below the minimum", x.least(3), 67300);
         x.setNode(1, 200, 42);
         asks(x, "least(2) above the capacity", () -> x.least(2), NONE);
         x.setNode(1, 200, 43);
@@ -833,6 +846,8 @@ public final class PromisesTest {
         due("bound(2) with equal opening costs", x.bound(2), 28100);
         x.setHub(2, true);
         due("bound(0) does not look at present hubs", x.bound(0), 28050);
+        x.setFlow(0, 3, 1);
+        due("bound(0) with a flow of 1", x.bound(0), 28050 + 1000);
         HubNetworks none = new HubNetworks();
         asks(none, "bound(0) without nodes", () -> none.bound(0), 0);
         asks(none, "bound(1) without nodes", () -> none.bound(1), BAD_VALUE);
