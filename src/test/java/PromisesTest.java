@@ -1,13 +1,7 @@
 import java.util.function.LongSupplier;
 
 /** The promises of the document one by one: ordinary inputs, edges, and wrong inputs. */
-public final class PromisesTest {
-    private static final int NONE = -1, BAD_INDEX = -2, BAD_VALUE = -3, BAD_STATE = -4, FULL = -5;
-    private static final int FAR_BELOW = Integer.MIN_VALUE, FAR_ABOVE = Integer.MAX_VALUE;
-    private static int wrong;
-    private static int asked;
-    private static String promise = "";
-
+public final class PromisesTest extends Checks {
     public static void main(String[] args) {
         newObject();
         addNode();
@@ -46,18 +40,7 @@ public final class PromisesTest {
         undo();
         digest();
         greatestNumbers();
-        System.out.println("PromisesTest: " + asked + " answers, " + wrong + " of them not as due");
-        if (wrong != 0) {
-            System.exit(1);
-        }
-    }
-
-    private static void due(String call, long answer, long want) {
-        asked++;
-        if (answer != want) {
-            wrong++;
-            System.out.println(promise + ": " + call + " answered " + answer + ", due is " + want);
-        }
+        report("PromisesTest");
     }
 
     /** A change that no cost depends on as long as the rates are 0, but the digest does. */
@@ -96,38 +79,8 @@ public final class PromisesTest {
         refused(x, call, made, want);
     }
 
-    private static HubNetworks square() {
-        HubNetworks x = new HubNetworks();
-        x.addNode(0, 0, 100, 500);
-        x.addNode(10, 0, 200, 500);
-        x.addNode(10, 10, 300, 500);
-        x.addNode(0, 20, 50, 500);
-        x.setFlow(0, 1, 10);
-        x.setFlow(1, 2, 20);
-        x.setFlow(3, 0, 5);
-        x.setFlow(2, 3, 8);
-        return x;
-    }
-
-    /** The square with the hubs 1 and 2, the node 0 under 1, and the node 3 under 2. */
-    private static HubNetworks planned() {
-        HubNetworks x = square();
-        x.setHub(1, true);
-        x.setHub(2, true);
-        x.assign(0, 1);
-        x.assign(3, 2);
-        return x;
-    }
-
-    private static void typeAll(HubNetworks x, String text) {
-        x.clearText();
-        for (int i = 0; i < text.length(); i++) {
-            due("type()", x.type(text.charAt(i)), i + 1);
-        }
-    }
-
     private static void newObject() {
-        promise = "1 a new object";
+        says("1 a new object");
         HubNetworks x = new HubNetworks();
         due("nodes()", x.nodes(), 0);
         due("hubs()", x.hubs(), 0);
@@ -150,7 +103,7 @@ public final class PromisesTest {
     }
 
     private static void addNode() {
-        promise = "2 addNode";
+        says("2 addNode");
         HubNetworks x = new HubNetworks();
         recorded(x, "addNode(0, 99, 100000, 0)", () -> x.addNode(0, 99, 100000, 0), 0);
         recorded(x, "addNode(99, 0, 0, 9999)", () -> x.addNode(99, 0, 0, 9999), 1);
@@ -182,7 +135,7 @@ public final class PromisesTest {
     }
 
     private static void setFlow() {
-        promise = "3 setFlow";
+        says("3 setFlow");
         HubNetworks x = square();
         recorded(x, "setFlow(0, 3, 0)", () -> x.setFlow(0, 3, 0), 0);
         x.setFlow(0, 1, 100);
@@ -204,7 +157,7 @@ public final class PromisesTest {
     }
 
     private static void setNode() {
-        promise = "4 setNode";
+        says("4 setNode");
         HubNetworks x = square();
         recorded(x, "setNode(2, 300, 500)", () -> x.setNode(2, 300, 500), 300);
         due("setNode(1, 100000, 9999)", x.setNode(1, 100000, 9999), 200);
@@ -223,7 +176,7 @@ public final class PromisesTest {
     }
 
     private static void setFactors() {
-        promise = "5 setFactors";
+        says("5 setFactors");
         HubNetworks x = planned();
         recorded(x, "setFactors(100, 50, 100, 0)", () -> x.setFactors(100, 50, 100, 0), 50);
         due("setFactors(1, 0, 2, 9999)", x.setFactors(1, 0, 2, 9999), 50);
@@ -246,7 +199,7 @@ public final class PromisesTest {
     }
 
     private static void setCongestion() {
-        promise = "6 setCongestion";
+        says("6 setCongestion");
         HubNetworks x = planned();
         long before = x.digest();
         due("setCongestion(0, 1000, 0, 1000)", x.setCongestion(0, 1000, 0, 1000), 9999);
@@ -270,7 +223,7 @@ public final class PromisesTest {
     }
 
     private static void nodes() {
-        promise = "7 nodes";
+        says("7 nodes");
         HubNetworks x = square();
         asks(x, "nodes()", x::nodes, 4);
         x.addNode(100, 0, 0, 0);
@@ -280,7 +233,7 @@ public final class PromisesTest {
     }
 
     private static void node() {
-        promise = "8 node";
+        says("8 node");
         HubNetworks x = square();
         int[] third = {10, 10, 300, 500, 8, 20};
         for (int what = 0; what < 6; what++) {
@@ -298,7 +251,7 @@ public final class PromisesTest {
     }
 
     private static void flow() {
-        promise = "9 flow";
+        says("9 flow");
         HubNetworks x = square();
         asks(x, "flow(1, 2)", () -> x.flow(1, 2), 20);
         asks(x, "flow(2, 1)", () -> x.flow(2, 1), 0);
@@ -310,7 +263,7 @@ public final class PromisesTest {
     }
 
     private static void distance() {
-        promise = "10 distance";
+        says("10 distance");
         HubNetworks x = square();
         asks(x, "distance(2, 3)", () -> x.distance(2, 3), 20);
         asks(x, "distance(3, 2)", () -> x.distance(3, 2), 20);
@@ -327,7 +280,7 @@ public final class PromisesTest {
     }
 
     private static void setHub() {
-        promise = "11 setHub";
+        says("11 setHub");
         HubNetworks x = square();
         recorded(x, "setHub(3, false)", () -> x.setHub(3, false), 0);
         due("setHub(1, true)", x.setHub(1, true), 0);
@@ -354,7 +307,7 @@ public final class PromisesTest {
     }
 
     private static void assign() {
-        promise = "12 assign";
+        says("12 assign");
         HubNetworks x = square();
         x.setHub(1, true);
         x.setHub(2, true);
@@ -376,7 +329,7 @@ public final class PromisesTest {
     }
 
     private static void hubs() {
-        promise = "13 hubs";
+        says("13 hubs");
         HubNetworks x = square();
         asks(x, "hubs()", x::hubs, 0);
         x.setHub(0, true);
@@ -387,7 +340,7 @@ public final class PromisesTest {
     }
 
     private static void hubOf() {
-        promise = "14 hubOf";
+        says("14 hubOf");
         HubNetworks x = planned();
         asks(x, "hubOf(0)", () -> x.hubOf(0), 1);
         asks(x, "hubOf(1)", () -> x.hubOf(1), 1);
@@ -399,7 +352,7 @@ public final class PromisesTest {
     }
 
     private static void check() {
-        promise = "15 check";
+        says("15 check");
         HubNetworks x = square();
         asks(x, "check() without hubs", x::check, 1);
         x.setHub(1, true);
@@ -431,7 +384,7 @@ public final class PromisesTest {
     }
 
     private static void load() {
-        promise = "16 load";
+        says("16 load");
         HubNetworks x = planned();
         asks(x, "load(1)", () -> x.load(1), 30);
         asks(x, "load(2)", () -> x.load(2), 13);
@@ -446,7 +399,7 @@ public final class PromisesTest {
     }
 
     private static void trunk() {
-        promise = "17 trunk";
+        says("17 trunk");
         HubNetworks x = planned();
         asks(x, "trunk(1, 2)", () -> x.trunk(1, 2), 20);
         asks(x, "trunk(2, 1)", () -> x.trunk(2, 1), 5);
@@ -469,7 +422,7 @@ public final class PromisesTest {
     }
 
     private static void cost() {
-        promise = "18 cost";
+        says("18 cost");
         HubNetworks x = planned();
         int[] parts = {54000, 20000, 12500, 21000, 500, 0};
         for (int what = 0; what < 6; what++) {
@@ -501,7 +454,7 @@ public final class PromisesTest {
     }
 
     private static void path() {
-        promise = "19 path";
+        says("19 path");
         HubNetworks x = planned();
         pathIs(x, 0, 3, 0, 1, 2, 3);
         pathIs(x, 3, 0, 3, 2, 1, 0);
@@ -534,7 +487,7 @@ public final class PromisesTest {
     }
 
     private static void change() {
-        promise = "20 change";
+        says("20 change");
         HubNetworks x = planned();
         // Collecting 10 * 10 more, trunk 2 to 1 of 10 instead of 5, and distributing 5 * 10 more.
         asks(x, "change(0, 2)", () -> x.change(0, 2), 1000000000 + 10000 + 2500 + 5000);
@@ -565,7 +518,7 @@ public final class PromisesTest {
     }
 
     private static void settle() {
-        promise = "21 settle";
+        says("21 settle");
         HubNetworks x = square();
         refused(x, "settle() without hubs", x::settle, BAD_STATE);
         HubNetworks none = new HubNetworks();
@@ -590,7 +543,7 @@ public final class PromisesTest {
     }
 
     private static void least() {
-        promise = "22 least";
+        says("22 least");
         HubNetworks x = square();
         x.setHub(0, true);
         asks(x, "least(2)", () -> x.least(2), 82200);
@@ -621,7 +574,7 @@ public final class PromisesTest {
     }
 
     private static void best() {
-        promise = "23 best";
+        says("23 best");
         HubNetworks x = square();
         asks(x, "best(0)", () -> x.best(0), 28650);
         asks(x, "best(1)", () -> x.best(1), 82200);
@@ -643,7 +596,7 @@ public final class PromisesTest {
 
     /** Of plans that cost the same, the one with the lower mask, then the lower sequence of hubs. */
     private static void ties() {
-        promise = "23 and 24, equal costs";
+        says("23 and 24, equal costs");
         HubNetworks x = new HubNetworks();
         for (int i = 0; i < 4; i++) {
             x.addNode(5, 5, 0, 9999);
@@ -676,7 +629,7 @@ public final class PromisesTest {
     }
 
     private static void adopt() {
-        promise = "24 adopt";
+        says("24 adopt");
         HubNetworks x = square();
         recorded(x, "adopt(2)", () -> x.adopt(2), 6);
         due("hubs()", x.hubs(), 6);
@@ -697,7 +650,7 @@ public final class PromisesTest {
     }
 
     private static void improve() {
-        promise = "25 improve";
+        says("25 improve");
         HubNetworks x = square();
         refused(x, "improve() without hubs", x::improve, BAD_STATE);
         x.setHub(1, true);
@@ -789,7 +742,7 @@ public final class PromisesTest {
     }
 
     private static void cheapest() {
-        promise = "26 cheapest";
+        says("26 cheapest");
         HubNetworks x = planned();
         asks(x, "cheapest(3, 0, 0)", () -> x.cheapest(3, 0, 0), 3500);
         asks(x, "cheapest(3, 0, 1)", () -> x.cheapest(3, 0, 1), 2);
@@ -819,7 +772,7 @@ public final class PromisesTest {
     }
 
     private static void hubBound() {
-        promise = "27 hubBound";
+        says("27 hubBound");
         HubNetworks x = planned();
         asks(x, "hubBound()", x::hubBound, 54000);
         x.setFactors(100, 50, 100, 9999);
@@ -832,7 +785,7 @@ public final class PromisesTest {
     }
 
     private static void bound() {
-        promise = "28 bound";
+        says("28 bound");
         HubNetworks x = square();
         // 500, 1000 for 10 units each way of the flows: 10 * 500 + 20 * 500 + 5 * 1000 + 8 * 1000.
         asks(x, "bound(0)", () -> x.bound(0), 28000 + 50);
@@ -854,7 +807,7 @@ public final class PromisesTest {
     }
 
     private static void feasible() {
-        promise = "29 feasible";
+        says("29 feasible");
         HubNetworks x = square();
         asks(x, "feasible(1)", () -> x.feasible(1), 1);
         asks(x, "feasible(6)", () -> x.feasible(6), 4);
@@ -881,7 +834,7 @@ public final class PromisesTest {
     }
 
     private static void type() {
-        promise = "30 type";
+        says("30 type");
         HubNetworks x = new HubNetworks();
         due("type(0)", x.type(0), 1);
         due("type(255)", x.type(255), 2);
@@ -898,7 +851,7 @@ public final class PromisesTest {
     }
 
     private static void clearText() {
-        promise = "31 clearText";
+        says("31 clearText");
         HubNetworks x = square();
         due("clearText()", x.clearText(), 0);
         typeAll(x, "h 1");
@@ -921,7 +874,7 @@ public final class PromisesTest {
     }
 
     private static void textFault() {
-        promise = "32 textFault";
+        says("32 textFault");
         for (String good : new String[] {"h1", "u 1", "a 1 2", "f1 2 3", "n 1 2 3 4", " h 1 ", "h1;u2;a3 4",
             "h 1 ; u 2", "  n  1  2  3  4  ;  f 1 2 3", "h 999999", "h 000000", "h1;h1;h1;h1;h1;h1;h1"}) {
             fault(good, NONE);
@@ -969,7 +922,7 @@ public final class PromisesTest {
     }
 
     private static void run() {
-        promise = "33 run";
+        says("33 run");
         HubNetworks x = new HubNetworks();
         due("run() of an empty text", x.run(), BAD_STATE);
         typeAll(x, "h 0;");
@@ -1015,7 +968,7 @@ public final class PromisesTest {
     }
 
     private static void undo() {
-        promise = "34 undo";
+        says("34 undo");
         HubNetworks x = new HubNetworks();
         due("undo()", x.undo(), BAD_STATE);
         long[] digests = new long[7];
@@ -1062,7 +1015,7 @@ public final class PromisesTest {
     }
 
     private static void digest() {
-        promise = "35 digest";
+        says("35 digest");
         HubNetworks x = planned();
         x.setFactors(11, 12, 13, 14);
         x.setCongestion(15, 16, 17, 18);
@@ -1098,7 +1051,7 @@ public final class PromisesTest {
 
     /** Everything at its greatest stays within the ints. */
     private static void greatestNumbers() {
-        promise = "18 to 28, the greatest numbers";
+        says("18 to 28, the greatest numbers");
         HubNetworks x = new HubNetworks();
         for (int i = 0; i < 8; i++) {
             x.addNode(i % 2 * 99, i % 2 * 99, 100000, 9999);
