@@ -2,7 +2,8 @@ import java.util.Random;
 
 /** Long runs of calls, always the same ones, each answered as the Reference answers it. */
 public final class RandomRunsTest {
-    private static final int CALLS = 250;
+    // An object is used for at most 512 calls; a text and its run() need the last ones.
+    private static final int MOST_CALLS = 512;
     private static final int MOST_SHOWN = 20;
 
     private final Random random;
@@ -15,6 +16,7 @@ public final class RandomRunsTest {
     private final int capacities;
     private final int openings;
     private final int rareBest;
+    private int calls;
     private static int wrong;
     private static int compared;
 
@@ -31,7 +33,7 @@ public final class RandomRunsTest {
     }
 
     public static void main(String[] args) {
-        int runs = args.length == 0 ? 300 : Integer.parseInt(args[0]);
+        int runs = args.length == 0 ? 1500 : Integer.parseInt(args[0]);
         for (int seed = 0; seed < runs; seed++) {
             new RandomRunsTest(seed).go();
         }
@@ -52,7 +54,7 @@ public final class RandomRunsTest {
         for (int i = random.nextInt(mostNodes * mostNodes + 1); i > 0; i--) {
             setFlow();
         }
-        for (int i = 0; i < CALLS; i++) {
+        while (calls < MOST_CALLS - 3) {
             call();
             same("digest()", made.digest(), due.digest());
         }
@@ -60,6 +62,7 @@ public final class RandomRunsTest {
 
     private void same(String call, long answer, long want) {
         compared++;
+        calls++;
         if (answer != want && wrong++ < MOST_SHOWN) {
             System.out.println("run " + seed + ": " + call + " answered " + answer + ", due is " + want);
         }
@@ -207,7 +210,7 @@ public final class RandomRunsTest {
             same("clearText()", made.clearText(), due.clearText());
         }
         String text = commands();
-        for (int i = 0; i < text.length(); i++) {
+        for (int i = 0; i < text.length() && calls < MOST_CALLS - 4; i++) {
             int code = random.nextInt(300) == 0 ? value(0, 255) : text.charAt(i);
             same("type(" + code + ")", made.type(code), due.type(code));
         }
@@ -225,7 +228,8 @@ public final class RandomRunsTest {
             }
         }
         if (random.nextInt(4) == 0) {
-            text.setCharAt(random.nextInt(text.length()), "nfhua; 0123456789x#N\u0000\t\u00ff".charAt(random.nextInt(23)));
+            text.setCharAt(random.nextInt(text.length()),
+                "nfhua; 0123456789x#N\u0000\t\u00ff".charAt(random.nextInt(23)));
         }
         return text.toString();
     }

@@ -30,6 +30,7 @@ public final class SizesTest extends Checks {
         improvesNotToNothing();
         improvesWithoutPlans();
         improvesToLowest();
+        improvesToLeast();
         improvesToLess();
         cheapestPairs();
         hubBounds();
@@ -250,6 +251,16 @@ public final class SizesTest extends Checks {
         x.assign(2, 1);
         due("cost(2) below it", x.cost(2), 4000);
         due("change(2, 0) to it", x.change(2, 0), 1000000000 - 7000 + 3500);
+        says("F is 100 for a trunk flow of 1 below a minimum of 2");
+        HubNetworks thin = row(9999, 10, 20);
+        thin.setFlow(0, 1, 1);
+        hubs(thin, 3);
+        thin.setFactors(100, 50, 100, 2);
+        due("cost(2) below 2", thin.cost(2), 1000);
+        due("least(3) below 2", thin.least(3), 1000);
+        thin.setFactors(100, 50, 100, 1);
+        due("cost(2) at 1", thin.cost(2), 500);
+        due("least(3) at 1", thin.least(3), 500);
         says("trunks only where k and m are different");
         HubNetworks y = row(9999, 0, 10, 0);
         y.setFlow(0, 1, 4);
@@ -342,6 +353,20 @@ public final class SizesTest extends Checks {
         x.setNode(0, 1, 9999);
         due("adopt(0) with the least mask one dearer", x.adopt(0), 2);
         due("adopt(7)", x.adopt(7), 254);
+        says("the mask decides, not the number of hubs");
+        HubNetworks two = row(0, 5, 5, 5);
+        two.setFlow(0, 1, 1);
+        two.setFlow(1, 0, 1);
+        two.setNode(0, 0, 1);
+        two.setNode(1, 0, 1);
+        two.setNode(2, 0, 2);
+        due("feasible(1)", two.feasible(1), 0);
+        due("feasible(2)", two.feasible(2), 0);
+        due("adopt(0) of the masks 3 and 4", two.adopt(0), 3);
+        says("the mask decides before the assignment");
+        two.setNode(1, 0, 2);
+        due("adopt(0) of the masks 2 (1, 1, 1) and 3 (0, 1, 0)", two.adopt(0), 2);
+        assignment(two, 1, 1, 1);
         says("if these are equal, too, if its assignment is lexicographically less");
         hubs(x, 0b10100100);
         due("settle() of equal assignments", x.settle(), 0);
@@ -760,6 +785,19 @@ public final class SizesTest extends Checks {
         due("least(7) is dearer", y.least(7) > y.least(3) ? 1 : 0, 1);
         due("improve() by adding", y.improve(), 1);
         due("hubs()", y.hubs(), 3);
+    }
+
+    private static void improvesToLeast() {
+        says("improve: the present hubs become the set with the least cost");
+        HubNetworks x = row(9999, 0, 10, 20);
+        x.setFlow(0, 2, 10);
+        x.setNode(1, 1, 9999);
+        x.setHub(0, true);
+        due("least(1)", x.least(1), 20000);
+        due("least(3) is less", x.least(3), 15001);
+        due("least(5) is the least", x.least(5), 10000);
+        due("improve()", x.improve(), 1);
+        due("hubs()", x.hubs(), 5);
     }
 
     private static void improvesToLess() {

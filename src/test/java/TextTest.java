@@ -277,8 +277,8 @@ public final class TextTest extends Checks {
 
     private static void runOfFaults() {
         says("run: BAD_STATE if the text has a fault; then nothing is carried out");
-        for (String text : new String[] {"", " ", "h 0;", "h 0;h", "h 0;x", "h 0;h 1234567", "h 0 1", "n 1 1 1 1;n 2 2 2",
-            "u 1;h 0;f 0 1", "h 0".repeat(40)}) {
+        for (String text : new String[] {"", " ", "h 0;", "h 0;h", "h 0;x", "h 0;h 1234567", "h 0 1",
+            "n 1 1 1 1;n 2 2 2", "u 1;h 0;f 0 1", "h 0".repeat(40)}) {
             refused(() -> typed(square(), text), "run() of \"" + text + "\"", HubNetworks::run, BAD_STATE);
         }
     }
@@ -321,7 +321,8 @@ public final class TextTest extends Checks {
     private static void runUpToErrors() {
         says("run: up to the first command that returns an error");
         String[] errors = {"h 4", "u 4", "a 0 4", "a 4 1", "f 0 4 1", "f 4 0 1", "h 999999", "f 0 1 101", "f 2 2 0",
-            "n 100 0 0 0", "n 0 100 0 0", "n 0 0 100001 0", "n 0 0 0 10000", "n 999999 0 0 0", "a 1 2", "a 0 3", "a 0 0"};
+            "n 100 0 0 0", "n 0 100 0 0", "n 0 0 100001 0", "n 0 0 0 10000", "n 999999 0 0 0", "a 1 2", "a 0 3",
+            "a 0 0"};
         for (String error : errors) {
             recordedOnly(() -> typed(planned(), error), "run() of " + error, HubNetworks::run, 0);
             recordedOnly(() -> typed(planned(), error + ";u 1;n 1 1 1 1"), "run() from " + error, HubNetworks::run, 0);
@@ -361,8 +362,8 @@ public final class TextTest extends Checks {
             HubNetworks::run, 39);
         recordedOnly(() -> typed(square(), "h1;u1;".repeat(20).substring(0, 119)), "run() of 40 commands",
             HubNetworks::run, 40);
-        refused(() -> typed(new HubNetworks(), "n1 1 1 1;".repeat(8) + "h0;".repeat(16)), "run() with a fault at the end",
-            HubNetworks::run, BAD_STATE);
+        refused(() -> typed(new HubNetworks(), "n1 1 1 1;".repeat(8) + "h0;".repeat(16)),
+            "run() with a fault at the end", HubNetworks::run, BAD_STATE);
     }
 
     private static void textStays() {
