@@ -825,7 +825,7 @@ public final class HubNetworks {
                     hubList[hubCount++] = node;
                     at[node] = node;
                     loads[node] = out[node];
-                    room &= loads[node] <= state.capacity[node];
+                    room = room && loads[node] <= state.capacity[node];
                 } else {
                     free[freeCount++] = node;
                 }

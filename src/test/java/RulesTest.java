@@ -29,7 +29,9 @@ public final class RulesTest {
     private static final String[] FORBIDDEN = {"\\bthrows?\\b", "\\btry\\b", "\\bcatch\\b", "\\bsynchronized\\b",
         "\\bassert\\b", "->", "::", "\\bequals\\b", "\\bhashCode\\b", "\\btoString\\b", "Exact\\b",
         "\\bSystem\\.(?!arraycopy\\b)", "\\bstatic\\s*\\{", "\\bRandom\\b", "\\bThread\\b", "\\bpackage\\b",
-        "\\bimport (?!java\\.util\\.(Arrays|ArrayList|List|Iterator);)", "\\binstanceof\\b", "\\bvar\\b"};
+        "\\bimport (?!java\\.util\\.(Arrays|ArrayList|List|Iterator);)", "\\binstanceof\\b", "\\bvar\\b",
+        // Booleans are joined by && and || alone.
+        "[&|^]= [^;]*(<=|>=|==|!=|&&|\\|\\||\\btrue\\b|\\bfalse\\b)"};
     private static int wrong;
 
     public static void main(String[] args) throws IOException {
